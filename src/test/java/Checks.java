@@ -1,0 +1,51 @@
+import java.util.ArrayList;
+import java.util.List;
+
+/** Counts answers that are not as due; every test of the project ends with its end(). */
+final class Checks {
+    private final List<String> wrong = new ArrayList<>();
+    private int checked;
+
+    void due(String what, long got, long want) {
+        checked++;
+        if (got != want) {
+            tell(what + " answered " + got + ", due is " + want);
+        }
+    }
+
+    void holds(String what, boolean truth) {
+        checked++;
+        if (!truth) {
+            tell(what);
+        }
+    }
+
+    boolean anyWrong() {
+        return !wrong.isEmpty();
+    }
+
+    private void tell(String line) {
+        wrong.add(line);
+        System.out.println(line);
+    }
+
+    void end() {
+        System.out.println(checked + " checked, " + wrong.size() + " wrong");
+        if (anyWrong()) {
+            System.exit(1);
+        }
+    }
+
+    static void type(RookRing x, String text) {
+        for (int i = 0; i < text.length(); i++) {
+            x.letter(text.charAt(i));
+        }
+    }
+
+    static RookRing ringOf(String text) {
+        RookRing x = new RookRing();
+        type(x, text);
+        x.ring();
+        return x;
+    }
+}
