@@ -1,9 +1,6 @@
-import java.util.ArrayList;
-import java.util.List;
-
 /** Counts answers that are not as due; every test of the project ends with its end(). */
 final class Checks {
-    private final List<String> wrong = new ArrayList<>();
+    private int wrong;
     private int checked;
 
     void due(String what, long got, long want) {
@@ -20,18 +17,18 @@ final class Checks {
         }
     }
 
-    boolean anyWrong() {
-        return !wrong.isEmpty();
+    int wrongSoFar() {
+        return wrong;
     }
 
     private void tell(String line) {
-        wrong.add(line);
+        wrong++;
         System.out.println(line);
     }
 
     void end() {
-        System.out.println(checked + " checked, " + wrong.size() + " wrong");
-        if (anyWrong()) {
+        System.out.println(checked + " checked, " + wrong + " wrong");
+        if (wrong > 0) {
             System.exit(1);
         }
     }

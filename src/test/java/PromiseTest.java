@@ -37,6 +37,7 @@ public final class PromiseTest {
         years();
         yearsTurnWind();
         image();
+        imageKeepsWhoWasPecked();
         imageIsBoundToItsRing();
         count();
         digest();
@@ -380,6 +381,9 @@ public final class PromiseTest {
         T.due("15 none in the wind", windy.can(), 0);
         windy.wind(0);
         T.due("15 all without", windy.can(), 255);
+        // Begun by the MUTE it is turned once, else twice.
+        T.due("15 by the first seat alone", Checks.ringOf("m2,t2,r1;0").can(), 255);
+        T.due("15 by the last seat alone", Checks.ringOf("t2,r1,m2;0").can(), 255);
         // SEATS 0 and 3 make law 2, 3, 6, 7; SEATS 1 and 2 make law 0, 3, 4, 7; so never 1 or 5.
         RookRing some = Checks.ringOf("t5,o1,t7,e6;0");
         T.due("15 some", some.can(), 221);
@@ -433,6 +437,10 @@ public final class PromiseTest {
         T.due("17 twice by the mute", alike.seating(0, 2, 0), 0);
         T.due("17 once", alike.seating(0, 1, 0), 1);
         T.due("17 by all but that of the two alike", alike.seating(0, 1, 1), 5);
+        // It is 2 only if the MUTE is heard just ahead of e0: no exchange alone does it.
+        RookRing two = Checks.ringOf("m0,e0,r0;0");
+        T.due("17 by two", two.seating(0, 2, 0), 2);
+        T.due("17 both ways round", two.seating(0, 2, 1), 2);
         for (int wrong : WRONG_WORDS) {
             T.due("17 motion " + wrong, x.seating(wrong, 0, 0), RookRing.OUTSIDE);
             T.due("17 word " + wrong, x.seating(0, wrong, 0), RookRing.OUTSIDE);
@@ -557,6 +565,11 @@ public final class PromiseTest {
         // He makes 4 of 1, or is a MUTE of any TWIG: t3 is out.
         T.due("21 a mute of any twig", mute.guess(1, 0), 10);
         T.due("21 the least", mute.guess(1, 1), 19);
+        RookRing begun = Checks.ringOf("m2,t2,r1;0");
+        begun.observe(1, 0, 2);
+        // Behind the MUTE he makes 2 of 0 by twice: o1, o5, e0, e4.
+        T.due("21 begun where it was", begun.guess(1, 0), 4);
+        T.due("21 begun where it was", begun.guess(1, 1), 17);
     }
 
     // 22
@@ -658,6 +671,18 @@ public final class PromiseTest {
         x.letter('r');
         x.restore();
         T.due("25 the page is not of it", x.count(6), 1);
+    }
+
+    private static void imageKeepsWhoWasPecked() {
+        RookRing x = Checks.ringOf("r0,r0,r0;0");
+        x.sit(1, 0);
+        x.image();
+        x.sit(1, 0);
+        x.sit(2, 0);
+        x.restore();
+        T.due("24 pecked once", x.about(1, 3), 1);
+        T.due("24 not yet pecked", x.about(2, 3), 0);
+        T.due("24 pecks", x.count(4), 1);
     }
 
     private static void imageIsBoundToItsRing() {
