@@ -405,6 +405,11 @@ public final class PromiseTest {
         RookRing five = Checks.ringOf("e0,r0,r0,r0,r0;1");
         T.due("16 each seat with each word", five.endless(4, 7, 0), 40);
         T.due("16 each seat with each word", five.endless(4, 7, 1), 40);
+        // o5 is heard behind the MUTE (10) but for SEAT 1 (5): 15 in a round of six, so eight rounds.
+        RookRing six = Checks.ringOf("r0,m0,o5,r0,r0,r7;0");
+        T.due("16 the longest", six.endless(3, 0, 0), 48);
+        T.due("16 the longest", six.endless(3, 0, 1), 48);
+        T.due("16 the longest", six.endless(3, 0, 2), RookRing.NONE);
         T.due("16 nothing is made law", five.count(2), 0);
         T.due("16 nobody is pecked", x.count(4), 0);
         for (int wrong : new int[] {-1, 3, Integer.MIN_VALUE, Integer.MAX_VALUE}) {
